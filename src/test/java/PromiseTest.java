@@ -236,6 +236,13 @@ public final class PromiseTest {
         done(x, "read(1, 0)", x.read(1, 0), 44);
         done(x, "copy widened", x.copy(1, 2, 0, 4, 1));
         done(x, "read(0, 4)", x.read(0, 4), (byte) -70000);
+        x.sheet(2, 3, 64);
+        x.write(2, 0, -5);
+        x.write(2, 31, 6);
+        done(x, "copy to the last place", x.copy(2, 0, 2, 32, 32));
+        done(x, "read(2, 32)", x.read(2, 32), -5);
+        done(x, "read(2, 63)", x.read(2, 63), 6);
+        done(x, "copy of a whole one", x.copy(2, 0, 2, 0, 64));
     }
 
     private static void none() {
@@ -519,6 +526,15 @@ public final class PromiseTest {
         x.ask(6, 0, 0);
         done(x, "enough(2)", x.enough(2), 0);
         done(x, "enough(0)", x.enough(0), 0);
+        // the last of twelve machines is looked at with depth 1
+        MachineHall z = new MachineHall();
+        for (int i = 0; i < 12; i++) {
+            z.machine(i == 11 ? 9 : 8, i / 3);
+        }
+        z.ask(9, 4, 4);
+        done(z, "enough(0)", z.enough(0), -2);
+        done(z, "enough(1)", z.enough(1), 412);
+        done(z, "enough(2)", z.enough(2), 412);
         // a room gone alone can be the first that lacks in hour 0
         MachineHall y = new MachineHall();
         y.machine(5, 0);
