@@ -23,6 +23,7 @@ public final class BuyingBoundsTest {
         buysFirst();
         buysFewest();
         buysMany();
+        buysOfFour();
         buysChanges();
         Runs.end("BuyingBoundsTest");
     }
@@ -61,6 +62,29 @@ public final class BuyingBoundsTest {
         Runs.gives("type(" + size + ", " + lead + ", 1, " + power + ")", number);
     }
 
+    /** One more is wanted in each month: what comes and what it takes tells of each month's want and of each price. */
+    private static void telling() {
+        want(1, 2, 3, 4, 5, 6, 7, 8, 9, 10, 11, 12);
+        type(0, 1, 0, 1, 50, 50, 50, 50, 50, 50, 50, 50, 50, 50, 50, 50);
+        Runs.gives("cheapest()", 12 * 50 + 78);
+    }
+
+    /** Four types by turns, each bought in three months. */
+    private static void tellingFour() {
+        long[] wanted = new long[12];
+        for (int month = 0; month < 12; month++) {
+            wanted[month] = 40 * (month + 1);
+        }
+        want(wanted);
+        for (int type = 0; type < 4; type++) {
+            long[] prices = each(1000);
+            for (int month = type; month < 12; month += 4) {
+                prices[month] = 100 - month;
+            }
+            type(type, 40, 0, 0, prices);
+        }
+    }
+
     /** What comes of a type, month by month from 0 on, and nothing after these. */
     private static void bought(int type, int... due) {
         for (int month = 0; month < 12; month++) {
@@ -72,26 +96,26 @@ public final class BuyingBoundsTest {
 
     private static void wantedRefused() {
         Runs.at(24, "1: no such SHEET");
-        want(from(3, 5));
+        telling();
         refuse("wanted(%s)", NO_SHEET, 1);
         Runs.fill(5, 1, from(4, 0));
-        Runs.refuses("cheapest()", 7);
+        Runs.gives("cheapest()", 12 * 50 + 78);
         Runs.gives("wanted(5)", 1);
         Runs.gives("cheapest()", 0);
         Runs.at(24, "2: the SHEET is MISSING");
-        want(from(3, 5));
-        for (int s = 1; s < 6; s++) {
+        telling();
+        for (int s = 2; s < 6; s++) {
             Runs.refuses("wanted(" + s + ")", 2);
         }
         Runs.does("drop(0)");
         Runs.refuses("wanted(0)", 2);
-        Runs.refuses("cheapest()", 7);
+        Runs.gives("cheapest()", 12 * 50 + 78);
         for (int many : new int[] {0, 1, 11}) {
             Runs.at(24, "3: too few numbers: " + many);
-            want(each(4));
+            telling();
             Runs.does("sheet(0, 1, " + many + ")");
             Runs.refuses("wanted(0)", 3);
-            Runs.refuses("cheapest()", 7);
+            Runs.gives("cheapest()", 12 * 50 + 78);
         }
         Runs.at(24, "3 ahead of 1: the numbers");
         Runs.does("sheet(0, 1, 12)", "write(0, 0, 501)", "write(0, 1, -1)", "write(0, 11, 9999)");
@@ -103,16 +127,16 @@ public final class BuyingBoundsTest {
     private static void wantedNumbers() {
         for (int month = 0; month < 12; month++) {
             Runs.at(24, "1: the numbers: from 0 to 500, in MONTH " + month);
-            want(each(1));
-            Runs.does("have(1)", "sheet(2, 3, 12)");
+            telling();
+            Runs.does("sheet(2, 3, 12)");
             for (long bad : new long[] {-1, 501, 1000, 1L << 32, Long.MAX_VALUE, Long.MIN_VALUE}) {
                 Runs.does("write(2, " + month + ", " + bad + ")");
                 Runs.refuses("wanted(2)", 1);
             }
-            Runs.gives("cheapest()", 0);
+            Runs.gives("cheapest()", 12 * 50 + 78);
             Runs.does("write(2, " + month + ", 500)");
             Runs.gives("wanted(2)", 1);
-            Runs.refuses("cheapest()", 7);
+            Runs.gives("cheapest()", 500 * (50 + 12 - month));
             Runs.does("have(500)");
             Runs.gives("cheapest()", 0);
             Runs.does("write(2, " + month + ", 0)", "have(0)");
@@ -252,10 +276,8 @@ public final class BuyingBoundsTest {
         Runs.does("sheet(0, 2, 11)", "write(0, 0, -1)", "write(0, 10, 100001)");
         Runs.refuses("type(1, 0, 0, 0)", 3);
         Runs.at(26, "asked in this order: 1, 2, 3 and the PRICES ahead of 4");
+        tellingFour();
         Runs.does("sheet(0, 2, 12)", "sheet(1, 2, 11)", "sheet(3, 2, 12)", "write(3, 11, 100001)");
-        for (int i = 0; i < 4; i++) {
-            Runs.does("type(1, 0, 0, 0)");
-        }
         Runs.refuses("type(1, 0, 0, 0)", 4);
         Runs.refuses("type(0, 0, 0, 0)", 1);
         Runs.refuses("type(101, 0, 0, 0)", 1);
@@ -272,15 +294,18 @@ public final class BuyingBoundsTest {
     private static void typePrices() {
         for (int month = 0; month < 12; month++) {
             Runs.at(26, "1: the PRICES: a PRICE in each MONTH (0 to 100,000), in MONTH " + month);
+            telling();
             Runs.does("sheet(0, 3, 12)");
             for (long bad : new long[] {-1, 100001, 1L << 32, Long.MAX_VALUE, Long.MIN_VALUE}) {
                 Runs.does("write(0, " + month + ", " + bad + ")");
                 Runs.refuses("type(1, 0, 0, 0)", 1);
             }
             Runs.does("write(0, " + month + ", 100000)");
-            Runs.gives("type(1, 0, 0, 0)", 0);
+            Runs.gives("type(100, 0, 0, 0)", 1);
+            Runs.gives("cheapest()", month > 0 ? 0 : 51 + 11);
             Runs.does("write(0, " + month + ", 0)");
-            Runs.gives("type(1, 0, 0, 0)", 1);
+            Runs.gives("type(100, 0, 0, 0)", 2);
+            Runs.gives("cheapest()", 0);
         }
         Runs.at(26, "the first 12 numbers of a SHEET: the others are not asked");
         Runs.does("sheet(0, 3, 64)", "write(0, 12, -1)", "write(0, 63, 100001)");
@@ -311,6 +336,11 @@ public final class BuyingBoundsTest {
         Runs.refuses("type(1, 0, 0, 0)", 4);
         Runs.refuses("type(100, 11, 0, 1000)", 4);
         Runs.gives("count(3)", 4);
+        Runs.at(26, "4: at most 4, and these are as they were");
+        tellingFour();
+        Runs.refuses("type(1, 0, 1, 0)", 4);
+        Runs.refuses("type(100, 11, 0, 1000)", 4);
+        Runs.gives("cheapest()", 1200 - 66);
         Runs.at(26, "a refused one takes no number");
         Runs.does("sheet(0, 2, 12)");
         Runs.gives("type(1, 0, 0, 0)", 0);
@@ -609,6 +639,20 @@ public final class BuyingBoundsTest {
             want(each(wants[i]));
             Runs.gives("buys(0, 0)", ones[i]);
             Runs.gives("buys(0, 1)", sixtyFours[i]);
+        }
+    }
+
+    private static void buysOfFour() {
+        Runs.at(28, "how many of a TYPE come in a MONTH: four TYPES by turns, to the last MONTH");
+        tellingFour();
+        for (int have : new int[] {0, 20}) {
+            Runs.does("have(" + have + ")");
+            Runs.gives("cheapest()", 1200 - 66);
+            for (int type = 0; type < 4; type++) {
+                for (int month = 0; month < 12; month++) {
+                    Runs.gives("buys(" + month + ", " + type + ")", month % 4 == type ? 1 : 0);
+                }
+            }
         }
     }
 

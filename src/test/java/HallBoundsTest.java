@@ -226,6 +226,7 @@ public final class HallBoundsTest {
 
     private static void apartBounds() {
         Runs.at(12, "1: no such ASK");
+        machines(5, 5, 5);
         for (int there = 0; there <= 10; there++) {
             for (String none : new String[] {"-1", "" + there, "10", "32", "min", "max"}) {
                 Runs.refuses("apart(" + none + ", 0, true)", 1);
@@ -239,12 +240,14 @@ public final class HallBoundsTest {
         Runs.gives("apart(0, 9, true)", 1);
         Runs.gives("apart(9, 8, true)", 1);
         Runs.at(12, "1: like ones, too, ahead of 5");
+        machines(5, 5);
         asks(0, 0, 1, 1);
         for (int a = 0; a < 2; a++) {
             Runs.refuses("apart(" + a + ", " + a + ", true)", 1);
             Runs.refuses("apart(" + a + ", " + a + ", false)", 1);
         }
         Runs.at(12, "1 ahead of 5: no such ASK can not be apart already");
+        machines(5, 5);
         asks(0, 0, 1, 1);
         Runs.refuses("apart(0, 2, false)", 1);
         Runs.refuses("apart(2, 1, false)", 1);
@@ -252,6 +255,7 @@ public final class HallBoundsTest {
 
     private static void apartAlready() {
         Runs.at(12, "5: it is so already");
+        machines(5, 5);
         asks(0, 0, 1, 1, 1);
         Runs.refuses("apart(0, 1, false)", 5);
         Runs.refuses("apart(1, 0, false)", 5);
@@ -836,6 +840,11 @@ public final class HallBoundsTest {
         Runs.gives("enough(0)", 1000);
         Runs.gives("enough(1)", 802);
         Runs.gives("enough(2)", 713);
+        Runs.at(18, "the first by HOURS, then by FALLS: HOUR 0 with the last FALL ahead of HOUR 1 with none");
+        Runs.does("machine(5, 3)", "machine(5, 3)", "machine(1, 0)", "ask(5, 0, 0)", "ask(100, 1, 1)");
+        Runs.gives("enough(0)", 100);
+        Runs.gives("enough(1)", 100);
+        Runs.gives("enough(2)", 16);
         Runs.at(18, "the first by HOURS, then by FALLS: of two in one HOUR");
         Runs.does("machine(5, 1)", "machine(5, 0)", "ask(5, 2, 2)", "ask(5, 2, 2)");
         Runs.gives("enough(1)", 201);

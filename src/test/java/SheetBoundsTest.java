@@ -179,6 +179,7 @@ public final class SheetBoundsTest {
         Runs.fill(1, 0, 5, 6);
         for (String many : new String[] {"-1", "65", "66", "min", "max"}) {
             Runs.refuses("sheet(1, 0, " + many + ")", 1);
+            Runs.refuses("sheet(1, 2, " + many + ")", 1);
             Runs.refuses("sheet(0, 0, " + many + ")", 1);
         }
         Runs.gives("read(1, 1)", 6);
