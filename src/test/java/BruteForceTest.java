@@ -15,7 +15,7 @@ public final class BruteForceTest {
     }
 
     public static void main(String[] args) {
-        for (int seed = 0; seed < 400; seed++) {
+        for (int seed = 0; seed < 800; seed++) {
             hall(new Random(seed), seed);
         }
         for (int seed = 0; seed < 600; seed++) {
@@ -30,7 +30,7 @@ public final class BruteForceTest {
         for (int seed = 0; seed < 60; seed++) {
             fewBuys(new Random(seed), seed);
         }
-        for (int seed = 0; seed < 300; seed++) {
+        for (int seed = 0; seed < 1500; seed++) {
             sheets(new Random(seed), seed);
         }
         dearest();
@@ -188,7 +188,7 @@ public final class BruteForceTest {
             for (int i = 0; i < 4; i++) {
                 change(r, x, d);
                 String name = "hall " + seed + "." + round + "." + i + " ";
-                for (int j = 0; j < 4; j++) {
+                for (int j = 0; j < 2; j++) {
                     lookAt(name, x, d, r.nextInt(24), r.nextInt(3) == 0 ? 13 + r.nextInt(4) : r.nextInt(d.machines + 1));
                 }
                 for (int depth = 0; depth < 3; depth++) {
@@ -559,7 +559,8 @@ public final class BruteForceTest {
         MachineHall x = new MachineHall();
         long[][] rows = new long[6][];
         int[] sorts = new int[6];
-        for (int i = 0; i < 300; i++) {
+        // with a status each, and 384 numbers to read at last, no more than an object's 512 calls
+        for (int i = 0; i < 60; i++) {
             String name = "sheets " + seed + "." + i + " ";
             int a = r.nextInt(40) == 0 ? 6 : r.nextInt(6);
             int b = r.nextInt(6);

@@ -1,30 +1,28 @@
+import java.io.IOException;
 import java.lang.reflect.Constructor;
 import java.lang.reflect.Field;
 import java.lang.reflect.Method;
 import java.lang.reflect.Modifier;
 import java.nio.file.Files;
 import java.nio.file.Path;
-import java.util.Arrays;
-import java.util.HashSet;
+import java.util.ArrayList;
+import java.util.LinkedHashMap;
+import java.util.List;
+import java.util.Map;
 import java.util.Set;
 import java.util.TreeSet;
 import java.util.regex.Matcher;
 import java.util.regex.Pattern;
 
-/** The public face, no more and no less, and those rules of LANGUAGE.md that can be read off the class and its source. */
+/** The class has the face that the document shows, no more and no less (LANGUAGE.md, rule 1, too). */
 public final class FaceTest {
-    private static final String[] FACE = {
-        "int status()", "boolean sheet(int, int, int)", "boolean write(int, int, long)", "long read(int, int)",
-        "boolean drop(int)", "boolean copy(int, int, int, int, int)", "boolean none()", "int machine(int, int)",
-        "boolean up(int, boolean)", "int ask(int, int, int)", "boolean apart(int, int, boolean)", "int count(int)",
-        "int fits(int, int)", "int on(int, int, int)", "int lack(int, int)", "int left(int, int)", "int enough(int)",
-        "int batch(int, int, int, int)", "int rest(int)", "int part(int, int, int)",
-        "int line(int, int, int, int, int)", "int hands(int, int, int, int)", "boolean wanted(int)",
-        "boolean have(int)", "int type(int, int, int, int)", "int cheapest()", "int buys(int, int)",
-    };
+    private static final Pattern CALL = Pattern.compile("public (\\w+) (\\w+)\\((.*)\\);");
+    private static final Pattern HEAD = Pattern.compile("    // ---- (.*)|    public \\w+ (\\w+)\\(.*\\) \\{");
+    private static int asked = 0;
     private static int wrong = 0;
 
     private static void due(String what, boolean holds) {
+        asked++;
         if (!holds) {
             wrong++;
             System.out.println("not so: " + what);
@@ -32,92 +30,88 @@ public final class FaceTest {
     }
 
     public static void main(String[] args) throws Exception {
-        face();
-        Set<String> faceNames = new HashSet<>();
-        for (String line : FACE) {
-            faceNames.add(line.replaceAll("^\\S+ (\\w+).*", "$1"));
-        }
-        inside(MachineHall.class, faceNames);
-        for (Class<?> c : MachineHall.class.getDeclaredClasses()) {
-            due(c + " is static", Modifier.isStatic(c.getModifiers()));
-            due(c + " is not public", !Modifier.isPublic(c.getModifiers()) && !Modifier.isProtected(c.getModifiers()));
-            inside(c, faceNames);
-        }
-        source();
-        System.out.println("FaceTest: " + wrong + " wrong");
+        theClass();
+        calls();
+        constants();
+        heads();
+        groups();
+        System.out.println("FaceTest: " + asked + " asked, " + wrong + " wrong");
         if (wrong != 0) {
             System.exit(1);
         }
     }
 
-    private static void face() throws Exception {
+    private static void theClass() {
         Class<?> c = MachineHall.class;
         due("public and final", Modifier.isPublic(c.getModifiers()) && Modifier.isFinal(c.getModifiers()));
-        Set<String> found = new TreeSet<>();
-        for (Method m : c.getDeclaredMethods()) {
-            if (!Modifier.isPrivate(m.getModifiers())) {
-                String types = Arrays.toString(m.getParameterTypes()).replaceAll("[\\[\\]]", "");
-                found.add(m.getReturnType() + " " + m.getName() + "(" + types + ")");
-                due(m + " is public and not static", Modifier.isPublic(m.getModifiers()) && !Modifier.isStatic(m.getModifiers()));
-            }
-        }
-        due("the methods are " + found, found.equals(new TreeSet<>(Arrays.asList(FACE))));
+        due("in no package", c.getPackageName().isEmpty());
+        due("of no class and no interface", c.getSuperclass() == Object.class && c.getInterfaces().length == 0);
         Constructor<?>[] makers = c.getDeclaredConstructors();
         due("one public constructor", makers.length == 1 && Modifier.isPublic(makers[0].getModifiers())
             && makers[0].getParameterCount() == 0);
-        for (Field f : c.getDeclaredFields()) {
-            due(f + " is private", Modifier.isPrivate(f.getModifiers()) || f.getName().equals("NONE"));
-        }
-        Field none = c.getField("NONE");
-        due("NONE", none.getType() == int.class && Modifier.isStatic(none.getModifiers())
-            && Modifier.isFinal(none.getModifiers()) && none.getInt(null) == -1);
     }
 
-    private static void inside(Class<?> c, Set<String> faceNames) {
-        int fields = 0;
-        for (Field f : c.getDeclaredFields()) {
-            if (Modifier.isStatic(f.getModifiers())) {
-                due(f + " is final", Modifier.isFinal(f.getModifiers()));
-            } else {
-                fields++;
+    private static void calls() throws IOException {
+        Set<String> told = new TreeSet<>();
+        for (String line : Document.face()) {
+            Matcher call = CALL.matcher(line);
+            if (call.matches()) {
+                told.add(call.group(1) + " " + call.group(2) + "(" + call.group(3).replaceAll(" \\w+(,|$)", "$1") + ")");
             }
         }
-        due(c + " has few fields", fields <= 20);
-        for (Method m : c.getDeclaredMethods()) {
-            due(m + " has at most seven parameters", m.getParameterCount() <= 7);
-            due(m + " has a name of its own", c == MachineHall.class && Modifier.isPublic(m.getModifiers())
-                || !faceNames.contains(m.getName()));
+        due("the document has 27 calls", told.size() == 27);
+        Set<String> found = new TreeSet<>();
+        for (Method m : MachineHall.class.getDeclaredMethods()) {
+            if (!Modifier.isPrivate(m.getModifiers())) {
+                List<String> types = new ArrayList<>();
+                for (Class<?> type : m.getParameterTypes()) {
+                    types.add(type.getName());
+                }
+                found.add(m.getReturnType() + " " + m.getName() + "(" + String.join(", ", types) + ")");
+                due(m + " is public, and of an object", Modifier.isPublic(m.getModifiers()) && !Modifier.isStatic(m.getModifiers()));
+                due(m + " throws nothing", m.getExceptionTypes().length == 0);
+            }
         }
+        due("the calls are " + found + ", told are " + told, found.equals(told));
     }
 
-    private static void source() throws Exception {
-        String text = Files.readString(Path.of("src/main/java/MachineHall.java"));
-        String code = text.replaceAll("(?s)/\\*.*?\\*/", "").replaceAll("//[^\n]*", "");
-        String[] banned = {"throw", "throws", "try", "catch", "finally", "synchronized", "assert", "instanceof", "volatile",
-            "->", "::", "\\bequals\\b", "hashCode", "toString", "Exact\\b", "\"", "\\bpackage\\b", "double", "float"};
-        for (String word : banned) {
-            String exact = Character.isLetter(word.charAt(0)) ? "\\b" + word + "\\b" : word;
-            due("no " + word, !Pattern.compile(exact).matcher(code).find());
+    private static void constants() throws Exception {
+        due("the document has one constant", Document.face().contains("public static final int NONE = -1;"));
+        for (Field f : MachineHall.class.getDeclaredFields()) {
+            due(f + " is private", Modifier.isPrivate(f.getModifiers()) || f.getName().equals("NONE"));
         }
-        for (String line : code.split("\n")) {
-            due("line is not too long: " + line, line.length() <= 120);
-            due("only Arrays is taken in: " + line, !line.startsWith("import") || line.equals("import java.util.Arrays;"));
-            boolean makes = Pattern.compile("\\bnew\\b").matcher(line).find();
-            due("objects are made for fields alone: " + line, !makes || line.matches("\\s+\\w+ = new [^;]*;"));
-        }
-        methods(code);
+        Field none = MachineHall.class.getField("NONE");
+        due("NONE is -1", none.getType() == int.class && Modifier.isPublic(none.getModifiers())
+            && Modifier.isStatic(none.getModifiers()) && Modifier.isFinal(none.getModifiers()) && none.getInt(null) == -1);
     }
 
-    private static void methods(String code) {
-        Matcher heads = Pattern.compile("(?m)^( {4}| {8})(\\w[\\w\\[\\] ]*)\\([^)]*\\) \\{$").matcher(code);
-        int many = 0;
-        while (heads.find()) {
-            many++;
-            int end = code.indexOf("\n" + heads.group(1) + "}\n", heads.end());
-            due(heads.group(2) + " is short", end > 0 && code.substring(heads.start(), end).split("\n").length <= 60);
-            boolean maker = heads.group(2).matches("(public )?[A-Z]\\w*");
-            due(heads.group(2) + " makes nothing", maker || !code.substring(heads.end(), end).contains(" new "));
+    /** The source shows the face line by line, with the names of all arguments. */
+    private static void heads() throws IOException {
+        List<String> found = new ArrayList<>();
+        for (String line : Files.readAllLines(Path.of("src/main/java/MachineHall.java"))) {
+            if (line.matches(" *public .*")) {
+                found.add(line.trim().replaceAll("\\) \\{$", ");"));
+            }
         }
-        due("methods are found", many > 60);
+        found.add("}");
+        due("the source shows " + found, found.equals(Document.face()));
+    }
+
+    /** What the interface says ahead of which calls. */
+    private static void groups() throws IOException {
+        Map<String, List<String>> found = new LinkedHashMap<>();
+        List<String> group = new ArrayList<>();
+        for (String line : Files.readAllLines(Path.of("src/main/java/MachineHall.java"))) {
+            Matcher head = HEAD.matcher(line);
+            if (head.matches() && head.group(1) != null) {
+                group = new ArrayList<>();
+                found.put(head.group(1), group);
+            } else if (head.matches()) {
+                group.add(head.group(2));
+            }
+        }
+        for (Map.Entry<String, List<String>> told : Document.groups().entrySet()) {
+            due("ahead of " + told.getValue() + " stands " + told.getKey(), told.getValue().equals(found.get(told.getKey())));
+        }
     }
 }

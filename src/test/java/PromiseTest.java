@@ -6,8 +6,7 @@ public final class PromiseTest {
 
     private static void due(String call, long got, long want) {
         asked++;
-        if (got != want) {
-            wrong++;
+        if (got != want && wrong++ < 40) {
             System.out.println("promise " + promise + ": " + call + " answered " + got + ", due is " + want);
         }
     }
@@ -73,6 +72,7 @@ public final class PromiseTest {
         type();
         cheapest();
         buys();
+        theLastCalls();
         System.out.println("PromiseTest: " + asked + " answers asked, " + wrong + " wrong");
         if (wrong != 0) {
             System.exit(1);
@@ -877,5 +877,43 @@ public final class PromiseTest {
         done(y, "cheapest", y.cheapest(), 1);
         done(y, "buys(4, 1)", y.buys(4, 1), 0);
         done(y, "buys(4, 2)", y.buys(4, 2), 1);
+    }
+
+    /** An object is used for at most 512 calls: the last ones answer as the first. */
+    private static void theLastCalls() {
+        promise = 1;
+        MachineHall x = new MachineHall();
+        fill(x, 0, 1, 3, 0, 0, 0, 0, 0, 0, 0, 0, 0, 0, 7);
+        x.sheet(1, 2, 12);
+        x.machine(9, 0);
+        x.machine(5, 1);
+        x.ask(5, 3, 4);
+        x.batch(6, 4, 5, 6);
+        x.wanted(0);
+        x.type(4, 0, 1, 2);
+        int made = 13 + 7;
+        boolean is = false;
+        for (; made < 490; made++) {
+            due("up, behind " + made + " calls", x.up(0, is), true);
+            is = !is;
+        }
+        long[][] last = {{x.read(0, 11), 7}, {x.count(4), 14}, {x.fits(4, 0), 1}, {x.on(4, 0, 0), 0}, {x.lack(3, 0), 0},
+            {x.left(4, 2), 4}, {x.enough(2), -2}, {x.rest(2), 2}, {x.part(0, 0, 4), 6}, {x.line(0, 12, 1, 9, 0), 9 * 9 - 11},
+            {x.hands(0, 12, 9, 0), 7}, {x.cheapest(), 26}, {x.buys(0, 0), 1}, {x.buys(11, 0), 1}};
+        made += last.length;
+        for (long[] pair : last) {
+            due("one of the last calls", pair[0], pair[1]);
+        }
+        due("copy", x.copy(0, 0, 1, 0, 12), true);
+        due("drop", x.drop(0), true);
+        due("machine", x.machine(1, 1), 2);
+        due("ask", x.ask(1, 0, 0), 1);
+        due("batch", x.batch(1, 0, 1, 1), 1);
+        made += 5;
+        due("no more than 512 calls", made + 2 <= 512, true);
+        for (; made < 510; made++) {
+            due("none", x.none(), false);
+        }
+        done(x, "the last call", x.read(1, 11), 7);
     }
 }
