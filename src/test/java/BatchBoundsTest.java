@@ -360,6 +360,12 @@ public final class BatchBoundsTest {
         parts(0, 0, 0, 8, 0);
         parts(0, 1, 0, 2, 6);
         parts(0, 2, 0, 0, 4);
+        Runs.at(21, "BATCH by BATCH goes ahead of HOUR by HOUR");
+        Runs.does("machine(1, 0)", "batch(1, 1, 3, 1)", "batch(1, 0, 3, 1)", "batch(1, 0, 2, 1)");
+        // BATCH 0 in HOUR 1 sends BATCH 2 to HOUR 0, where BATCH 1 could be else
+        parts(0, 0, 0, 0, 1, 0);
+        parts(0, 1, 0, 0, 0, 1);
+        parts(0, 2, 0, 1, 0, 0);
         Runs.at(21, "a part can have nothing: the whole WORK in the first HOUR");
         Runs.does("machine(100, 0)", "batch(1, 0, 24, 1000)", "batch(99, 0, 24, 1000)", "batch(1, 0, 24, 1)");
         for (int hour = 0; hour < 24; hour++) {

@@ -18,8 +18,14 @@ public final class BruteForceTest {
         for (int seed = 0; seed < 800; seed++) {
             hall(new Random(seed), seed);
         }
+        for (int seed = 0; seed < 60; seed++) {
+            wideHall(new Random(seed), seed);
+        }
         for (int seed = 0; seed < 600; seed++) {
             batches(new Random(seed), seed);
+        }
+        for (int seed = 0; seed < 2000; seed++) {
+            fullBatches(new Random(seed), seed);
         }
         for (int seed = 0; seed < 400; seed++) {
             lines(new Random(seed), seed);
@@ -198,6 +204,81 @@ public final class BruteForceTest {
         }
     }
 
+    // ---- more machines and asks: row by row, which sets the machines from one on can take
+
+    private static void wideHall(Random r, int seed) {
+        MachineHall x = new MachineHall();
+        Day d = new Day();
+        int wide = 6 + r.nextInt(30);
+        for (int m = 0; m < 12 - r.nextInt(6); m++) {
+            d.machines++;
+            d.size[m] = 1 + wide / 4 + r.nextInt(wide);
+            d.room[m] = r.nextInt(4);
+            d.up[m] = true;
+            due("machine", x.machine(d.size[m], d.room[m]), m);
+        }
+        for (int a = 0; a < 10 - r.nextInt(3); a++) {
+            d.asks++;
+            d.need[a] = 1 + r.nextInt(wide * 2 / 3);
+            d.first[a] = r.nextInt(4);
+            d.last[a] = 4 + r.nextInt(20);
+            due("ask", x.ask(d.need[a], d.first[a], d.last[a]), a);
+        }
+        for (int i = 0; i < 12; i++) {
+            change(r, x, d);
+            int hour = 3 + r.nextInt(8);
+            int fall = r.nextInt(17);
+            lookWide("wide hall " + seed + "." + i + " " + hour + " " + fall + " ", x, d, hour, fall);
+        }
+    }
+
+    private static void lookWide(String name, MachineHall x, Day d, int hour, int fall) {
+        boolean[][] can = rows(d, fall);
+        int all = d.setOf(hour);
+        int most = 0;
+        for (int set = 0; set < 1 << d.asks; set++) {
+            most = (set & ~all) == 0 && can[0][set] ? Math.max(most, d.needs(set)) : most;
+        }
+        due(name + "fits", x.fits(hour, fall), can[0][all] ? 1 : 0);
+        due(name + "lack", x.lack(hour, fall), d.needs(all) - most);
+        int others = all;
+        for (int m = 0; m < d.machines && can[0][all]; m++) {
+            int laid = others;
+            while (!takes(d, m, fall, laid) || !can[m + 1][others ^ laid]) {
+                laid = (laid - 1) & others;
+            }
+            for (int a = 0; a < d.asks; a++) {
+                if ((laid >> a & 1) != 0) {
+                    due(name + "on " + a, x.on(hour, fall, a), m);
+                }
+            }
+            others ^= laid;
+        }
+    }
+
+    private static boolean[][] rows(Day d, int fall) {
+        boolean[][] can = new boolean[d.machines + 1][1 << d.asks];
+        can[d.machines][0] = true;
+        for (int m = d.machines - 1; m >= 0; m--) {
+            for (int taken = 0; taken < 1 << d.asks; taken++) {
+                if (takes(d, m, fall, taken)) {
+                    for (int behind = 0; behind < 1 << d.asks; behind++) {
+                        can[m][taken | behind] |= (taken & behind) == 0 && can[m + 1][behind];
+                    }
+                }
+            }
+        }
+        return can;
+    }
+
+    private static boolean takes(Day d, int machine, int fall, int set) {
+        boolean calm = true;
+        for (int a = 0; a < d.asks; a++) {
+            calm &= (set >> a & 1) == 0 || d.peace(set, a);
+        }
+        return set == 0 || d.stands(machine, fall) && d.needs(set) <= d.size[machine] && calm;
+    }
+
     private static void lookAt(String name, MachineHall x, Day d, int hour, int fall) {
         int set = d.setOf(hour);
         int[] laying = d.laying(set, fall);
@@ -320,6 +401,48 @@ public final class BruteForceTest {
             look(r, "batches " + seed + " changed " + i + " ", x, d, new int[][] {work, from, due, most}, count);
             change(r, x, d);
         }
+    }
+
+    /** Batches made of parts that fill what is left, or nearly: each part stands in the way of others. */
+    private static void fullBatches(Random r, int seed) {
+        MachineHall x = new MachineHall();
+        Day d = new Day();
+        d.machines = 1;
+        d.size[0] = 1 + r.nextInt(4);
+        d.up[0] = true;
+        due("machine", x.machine(d.size[0], 0), 0);
+        grow(r, x, d, 1, r.nextInt(3), 3);
+        int start = r.nextInt(18);
+        int end = start + 2 + r.nextInt(5);
+        int[][] laid = new int[2 + r.nextInt(7)][24];
+        for (int h = start; h < end; h++) {
+            for (int left = d.left(h, 0); left > 0; left--) {
+                laid[r.nextInt(laid.length)][h] += r.nextInt(8) > 0 ? 1 : 0;
+            }
+        }
+        int[][] told = new int[4][8];
+        int count = 0;
+        for (int[] row : laid) {
+            int first = start;
+            int last = end - 1;
+            int work = Arrays.stream(row).sum();
+            if (work > 0) {
+                while (row[first] == 0 && r.nextInt(4) > 0) {
+                    first++;
+                }
+                while (row[last] == 0 && r.nextInt(4) > 0) {
+                    last--;
+                }
+                int most = Arrays.stream(row).max().getAsInt() + r.nextInt(2) * r.nextInt(3);
+                due("batch", x.batch(work, first, last + 1, most), count);
+                int[] batch = {work, first, last + 1, most};
+                for (int i = 0; i < 4; i++) {
+                    told[i][count] = batch[i];
+                }
+                count++;
+            }
+        }
+        look(r, "full batches " + seed + " ", x, d, told, count);
     }
 
     private static void look(Random r, String name, MachineHall x, Day d, int[][] told, int count) {

@@ -879,9 +879,8 @@ public final class PromiseTest {
         done(y, "buys(4, 2)", y.buys(4, 2), 1);
     }
 
-    /** An object is used for at most 512 calls: the last ones answer as the first. */
-    private static void theLastCalls() {
-        promise = 1;
+    /** A hall with something of each in it, made by 20 calls. */
+    private static MachineHall furnished() {
         MachineHall x = new MachineHall();
         fill(x, 0, 1, 3, 0, 0, 0, 0, 0, 0, 0, 0, 0, 0, 7);
         x.sheet(1, 2, 12);
@@ -891,29 +890,36 @@ public final class PromiseTest {
         x.batch(6, 4, 5, 6);
         x.wanted(0);
         x.type(4, 0, 1, 2);
-        int made = 13 + 7;
-        boolean is = false;
-        for (; made < 490; made++) {
-            due("up, behind " + made + " calls", x.up(0, is), true);
-            is = !is;
+        return x;
+    }
+
+    private interface Call {
+        long on(MachineHall x);
+    }
+
+    /** An object is used for at most 512 calls: the last ones answer as the first, of one kind and of all. */
+    private static void theLastCalls() {
+        promise = 1;
+        MachineHall y = furnished();
+        for (int i = 0; i < 490; i++) {
+            due("up, behind " + (20 + i) + " calls", y.up(0, i % 2 == 1), true);
         }
-        long[][] last = {{x.read(0, 11), 7}, {x.count(4), 14}, {x.fits(4, 0), 1}, {x.on(4, 0, 0), 0}, {x.lack(3, 0), 0},
-            {x.left(4, 2), 4}, {x.enough(2), -2}, {x.rest(2), 2}, {x.part(0, 0, 4), 6}, {x.line(0, 12, 1, 9, 0), 9 * 9 - 11},
-            {x.hands(0, 12, 9, 0), 7}, {x.cheapest(), 26}, {x.buys(0, 0), 1}, {x.buys(11, 0), 1}};
-        made += last.length;
-        for (long[] pair : last) {
-            due("one of the last calls", pair[0], pair[1]);
+        done(y, "the last call", y.count(4), 14);
+        Call[] calls = {x -> x.read(0, 11), x -> x.count(4), x -> x.fits(4, 0), x -> x.on(4, 0, 0), x -> x.lack(3, 1),
+            x -> x.left(4, 2), x -> x.enough(2), x -> x.rest(2), x -> x.part(0, 0, 4), x -> x.line(0, 12, 1, 9, 0),
+            x -> x.hands(0, 12, 9, 0), x -> x.cheapest(), x -> x.buys(0, 0), x -> x.buys(11, 0)};
+        long[] want = {7, 14, 1, 0, 0, 4, -2, 2, 6, 70, 7, 26, 1, 1};
+        MachineHall z = furnished();
+        for (int i = 0; i < 490; i++) {
+            due("one of all, behind " + (20 + i) + " calls", calls[i % 14].on(z), want[i % 14]);
         }
-        due("copy", x.copy(0, 0, 1, 0, 12), true);
-        due("drop", x.drop(0), true);
-        due("machine", x.machine(1, 1), 2);
-        due("ask", x.ask(1, 0, 0), 1);
-        due("batch", x.batch(1, 0, 1, 1), 1);
-        made += 5;
-        due("no more than 512 calls", made + 2 <= 512, true);
-        for (; made < 510; made++) {
-            due("none", x.none(), false);
+        done(z, "the last call", z.machine(1, 1), 2);
+        for (int c = 0; c < calls.length; c++) {
+            MachineHall x = furnished();
+            for (int i = 0; i < 491; i++) {
+                due("call " + c + ", behind " + (20 + i) + " calls", calls[c].on(x), want[c]);
+            }
+            due("the last status", x.status(), 0);
         }
-        done(x, "the last call", x.read(1, 11), 7);
     }
 }

@@ -273,6 +273,15 @@ public final class SheetBoundsTest {
             {2147483647L, 2147483647L}, {2147483648L, -2147483648L}, {2147483649L, -2147483647L},
             {-2147483648L, -2147483648L}, {-2147483649L, 2147483647L}, {4294967295L, -1}, {4294967296L, 0},
             {4294967297L, 1}, {Long.MAX_VALUE, -1}, {Long.MIN_VALUE, 0}, {-1, -1}, {0, 0}});
+        for (int sort = 0; sort < 4; sort++) {
+            Runs.at(4, "cut to its sort: in each place of 64, sort " + sort);
+            Runs.does("sheet(5, " + sort + ", 64)");
+            for (int place = 0; place < 64; place++) {
+                Runs.gives("write(5, " + place + ", " + (0x123456789abcde00L + place) + ")", 1);
+            }
+            long[] least = {0, (short) 0xde00, 0x9abcde00, 0x123456789abcde00L};
+            rows(5, 0, 64, least[sort], 1);
+        }
         Runs.at(4, "cut to its sort: 64 bits stay whole");
         cut(3, new long[][] {{2147483648L, 2147483648L}, {-2147483649L, -2147483649L}, {4294967296L, 4294967296L},
             {Long.MAX_VALUE, Long.MAX_VALUE}, {Long.MIN_VALUE, Long.MIN_VALUE}, {-1, -1}, {0, 0}});
